@@ -26,10 +26,12 @@ public final class BlobCorners {
     private final Seen seen = new Seen();
     private final Seen keptSeen = new Seen();
     private final Racks racks = new Racks();
-    private final Joints joints = new Joints();
     private final Outlines outlines = new Outlines();
+    private final Joints joints = new Joints(outlines);
+    private final BestPolygons best = new BestPolygons(outlines, joints);
+    // For BLOBS that are not there: drawn ones, and THE BLOB without a DOT.
     private final Outlines tried = new Outlines();
-    private final BestPolygons best = new BestPolygons();
+    private final Joints triedJoints = new Joints(tried);
     private boolean isKept = false;
     private int blobsRead = 0;
     private int weightsAsked = 0;
@@ -129,13 +131,10 @@ public final class BlobCorners {
     }
 
     public int corner(int outline, int number) {
-        if (!outlines.has(outline)) {
+        if (!outlines.has(outline) || number < 0 || number >= best.fewestOf(outline)) {
             return UNKNOWN;
         }
-        if (number < 0 || number >= fewestOf(outline)) {
-            return UNKNOWN;
-        }
-        best.solve(outlines, outline, joints);
+        best.solve(outline);
         return best.cornerAt(outlines.startOf(outline) + number);
     }
 
@@ -244,9 +243,9 @@ public final class BlobCorners {
             next = drawInto(spare, next);
             tried.trace(spare);
             count += tried.count;
-            // The corners are dear to find, so only who asks for them pays for them.
+            // They are dear to find, so only who asks for them pays for them.
             if (what == 0) {
-                corners += cornersTogether(tried);
+                corners += triedCorners();
             }
         }
         return what == 0 ? corners : what == 1 ? count : next;
@@ -325,12 +324,12 @@ public final class BlobCorners {
             case 1:
                 return outlines.isHole(outline) ? 1 : 0;
             case 2:
-                return fewestOf(outline);
+                return best.fewestOf(outline);
             case 3:
-                best.solve(outlines, outline, joints);
+                best.solve(outline);
                 return best.bitsAt(outline);
             case 4:
-                best.solve(outlines, outline, joints);
+                best.solve(outline);
                 return best.areaAt(outline);
             case 5:
                 return Math.abs(outlines.areaOf(outline));
@@ -351,7 +350,7 @@ public final class BlobCorners {
             case 3:
                 return outlines.reachOf(outline, number);
             default:
-                best.solve(outlines, outline, joints);
+                best.solve(outline);
                 return best.isCornerAt(at) ? 1 : 0;
         }
     }
@@ -401,26 +400,24 @@ public final class BlobCorners {
     private void dotsChanged() {
         racks.clear();
         outlines.trace(grid);
-        best.clear();
-    }
-
-    private int fewestOf(int outline) {
-        return best.fewestOf(outlines, outline, joints);
+        joints.reset();
+        best.reset();
     }
 
     private int allCorners() {
         int sum = 0;
         for (int i = 0; i < outlines.count; i++) {
-            sum += fewestOf(i);
+            sum += best.fewestOf(i);
         }
         return sum;
     }
 
-    private int cornersTogether(Outlines some) {
+    private int triedCorners() {
         int sum = 0;
-        for (int i = 0; i < some.count; i++) {
-            joints.fill(some, i);
-            sum += joints.fewest();
+        triedJoints.reset();
+        for (int i = 0; i < tried.count; i++) {
+            triedJoints.fill(i);
+            sum += triedJoints.fewest();
         }
         return sum;
     }
@@ -435,7 +432,7 @@ public final class BlobCorners {
             spare.copyFrom(grid);
             spare.set(place, NONE);
             tried.trace(spare);
-            int corners = cornersTogether(tried);
+            int corners = triedCorners();
             if (corners < least) {
                 least = corners;
                 found = place;
@@ -580,7 +577,9 @@ public final class BlobCorners {
         }
 
         private int kindAtCell(int x, int y) {
-            return x >= 0 && x < width && y >= 0 && y < height ? kindAt(y * width + x) : NONE;
+            int place = y * width + x;
+            return x >= 0 && x < width && y >= 0 && y < height && place < MOST_PLACES
+                ? kinds[place] : NONE;
         }
 
         private boolean hasDot(int x, int y) {
@@ -784,7 +783,7 @@ public final class BlobCorners {
                     }
                 }
             }
-            for (int i = 0; i < count; i++) {
+            for (int i = 0; i < count && i < MOST_OUTLINES; i++) {
                 areas[i] = signedArea(i);
                 describePoints(grid, i);
             }
@@ -912,11 +911,12 @@ public final class BlobCorners {
         }
 
         private int startOf(int outline) {
-            return has(outline) ? starts[outline] : 0;
+            return outline >= 0 && outline < MOST_OUTLINES ? starts[outline] : 0;
         }
 
         private int lengthOf(int outline) {
-            return has(outline) ? lengths[outline] : 0;
+            return outline >= 0 && outline < count && outline < MOST_OUTLINES
+                ? lengths[outline] : 0;
         }
 
         private int areaOf(int outline) {
@@ -973,19 +973,27 @@ public final class BlobCorners {
             return (xAt(k) - xAt(i)) * (yAt(j) - yAt(i)) - (yAt(k) - yAt(i)) * (xAt(j) - xAt(i));
         }
 
+        /** Of two POINTS that there are. */
         private boolean canJoin(int outline, int from, int to) {
             int start = startOf(outline);
             int length = lengthOf(outline);
-            int i = start + from;
-            int j = start + to;
-            int span = Math.max(Math.abs(xAt(j) - xAt(i)), Math.abs(yAt(j) - yAt(i)));
+            int x = xAt(start + from);
+            int y = yAt(start + from);
+            int right = xAt(start + to) - x;
+            int down = yAt(start + to) - y;
+            int span = Math.max(Math.abs(right), Math.abs(down));
             if (span == 0) {
                 return false;
             }
-            int steps = to > from ? to - from : to - from + length;
+            int steps = stepsBetween(from, to, length);
             for (int s = 1; s < steps; s++) {
                 int k = start + (from + s < length ? from + s : from + s - length);
-                if (mustAt(k) || 2 * Math.abs(beside(i, k, j)) > leewayAt(k) * span) {
+                // Nearly all the time of all calls is spent here, so the rows are read at once.
+                if (k < 0 || k >= MOST_POINTS || musts[k]) {
+                    return false;
+                }
+                int far = (xs[k] - x) * down - (ys[k] - y) * right;
+                if (2 * Math.abs(far) > leeways[k] * span) {
                     return false;
                 }
             }
@@ -1003,7 +1011,7 @@ public final class BlobCorners {
             if (squared == 0) {
                 return 0.0f;
             }
-            int steps = to > from ? to - from : to - from + length;
+            int steps = stepsBetween(from, to, length);
             int sum = 0;
             for (int s = 1; s < steps; s++) {
                 int k = start + (from + s < length ? from + s : from + s - length);
@@ -1011,6 +1019,10 @@ public final class BlobCorners {
                 sum += far * far;
             }
             return (float) sum / (float) squared;
+        }
+
+        private static int stepsBetween(int from, int to, int length) {
+            return to > from ? to - from : to - from + length;
         }
 
         private int reachOf(int outline, int number) {
@@ -1029,26 +1041,45 @@ public final class BlobCorners {
 
     /** Which POINTS of one OUTLINE can be JOINED with which. */
     private static final class Joints {
+        private final Outlines outlines;
         private final long[] joints = new long[MOST_POINTS];
+        private int filledFor = NONE;
         private int length = 0;
 
-        private void fill(Outlines some, int outline) {
-            int start = some.startOf(outline);
-            length = some.lengthOf(outline);
-            for (int from = 0; from < length && from < MOST_POINTS; from++) {
-                long bits = 0L;
-                for (int s = 1; s < length; s++) {
-                    int to = from + s < length ? from + s : from + s - length;
-                    if (some.canJoin(outline, from, to)) {
-                        bits |= 1L << to;
-                    }
-                    // None beyond a POINT that has to be a CORNER can be JOINED.
-                    if (some.mustAt(start + to)) {
-                        break;
-                    }
-                }
-                joints[from] = bits;
+        private Joints(Outlines outlines) {
+            this.outlines = outlines;
+        }
+
+        /** To be called when the OUTLINES are others. */
+        private void reset() {
+            filledFor = NONE;
+        }
+
+        private void fill(int outline) {
+            if (filledFor == outline) {
+                return;
             }
+            filledFor = outline;
+            length = Math.min(outlines.lengthOf(outline), MOST_POINTS);
+            for (int from = 0; from < length; from++) {
+                joints[from] = jointsFrom(outline, from);
+            }
+        }
+
+        private long jointsFrom(int outline, int from) {
+            int start = outlines.startOf(outline);
+            long bits = 0L;
+            for (int s = 1; s < length; s++) {
+                int to = from + s < length ? from + s : from + s - length;
+                if (outlines.canJoin(outline, from, to)) {
+                    bits |= 1L << to;
+                }
+                // None beyond a POINT that has to be a CORNER can be JOINED.
+                if (outlines.mustAt(start + to)) {
+                    break;
+                }
+            }
+            return bits;
         }
 
         private long from(int number) {
@@ -1056,7 +1087,7 @@ public final class BlobCorners {
         }
 
         private boolean are(int from, int to) {
-            return (from(from) >>> to & 1L) == 1L;
+            return from >= 0 && from < MOST_POINTS && (joints[from] >>> to & 1L) == 1L;
         }
 
         /** The POINTS of a greater number than the first one that can be JOINED with it. */
@@ -1109,6 +1140,8 @@ public final class BlobCorners {
     private static final class BestPolygons {
         private static final float MISSING = -1.0f;
 
+        private final Outlines outlines;
+        private final Joints joints;
         private final int[] fewest = new int[MOST_OUTLINES];
         private final boolean[] isSolved = new boolean[MOST_OUTLINES];
         private final int[] bits = new int[MOST_OUTLINES];
@@ -1123,38 +1156,46 @@ public final class BlobCorners {
         private int length = 0;
         private int lastAhead = 0;
 
-        private void clear() {
+        private BestPolygons(Outlines outlines, Joints joints) {
+            this.outlines = outlines;
+            this.joints = joints;
+        }
+
+        /** To be called when the OUTLINES are others. */
+        private void reset() {
             for (int i = 0; i < MOST_OUTLINES; i++) {
                 fewest[i] = 0;
                 isSolved[i] = false;
             }
         }
 
-        private int fewestOf(Outlines some, int outline, Joints joints) {
+        private int fewestOf(int outline) {
             if (outline < 0 || outline >= MOST_OUTLINES) {
                 return 0;
             }
             if (fewest[outline] == 0) {
-                joints.fill(some, outline);
+                joints.fill(outline);
                 fewest[outline] = joints.fewest();
             }
             return fewest[outline];
         }
 
-        private void solve(Outlines some, int outline, Joints joints) {
+        private void solve(int outline) {
             if (outline < 0 || outline >= MOST_OUTLINES || isSolved[outline]) {
                 return;
             }
-            int steps = fewestOf(some, outline, joints);
-            int start = some.startOf(outline);
-            joints.fill(some, outline);
-            fillPenalties(some, outline, joints);
+            isSolved[outline] = true;
+            joints.fill(outline);
+            int steps = joints.fewest();
+            int start = outlines.startOf(outline);
+            length = Math.min(outlines.lengthOf(outline), MOST_POINTS);
+            fillPenalties(outline);
             float least = MISSING;
             for (int first = 0; first < length; first++) {
                 if (joints.lastOnes(first) == 0L) {
                     continue;
                 }
-                float sum = sumRound(first, steps, joints);
+                float sum = sumRound(first, steps);
                 if (sum != MISSING && (least == MISSING || sum < least)) {
                     least = sum;
                     keepCorners(start, first, steps);
@@ -1162,40 +1203,40 @@ public final class BlobCorners {
             }
             markCorners(start, steps);
             bits[outline] = bitsOf(least);
-            areas[outline] = polygonArea(some, start, steps);
-            isSolved[outline] = true;
+            areas[outline] = polygonArea(start, steps);
         }
 
-        private void fillPenalties(Outlines some, int outline, Joints joints) {
-            length = Math.min(some.lengthOf(outline), MOST_POINTS);
+        private void fillPenalties(int outline) {
             for (int from = 0; from < length; from++) {
                 for (int to = 0; to < length; to++) {
-                    if (joints.are(from, to)) {
-                        penalties[from * MOST_POINTS + to] = some.penaltyOf(outline, from, to);
+                    int at = from * MOST_POINTS + to;
+                    if (at < penalties.length && joints.are(from, to)) {
+                        penalties[at] = outlines.penaltyOf(outline, from, to);
                     }
                 }
             }
         }
 
         /** The SUM of a POINT itself by so many steps. */
-        private float sumRound(int first, int steps, Joints joints) {
+        private float sumRound(int first, int steps) {
             for (int v = first; v < length; v++) {
                 setSum(0, v, v == first ? 0.0f : MISSING, NONE);
             }
             for (int n = 1; n < steps; n++) {
                 setSum(n, first, MISSING, NONE);
                 for (int v = first + 1; v < length; v++) {
-                    setSum(n, v, leastInto(v, n, first, v, joints), lastAhead);
+                    float sum = leastInto(v, n, first, v);
+                    setSum(n, v, sum, lastAhead);
                 }
             }
-            return leastInto(first, steps, first + 1, length, joints);
+            return leastInto(first, steps, first + 1, length);
         }
 
         /**
          * The SUM of a POINT by N steps from those of lesser number than the end, by N - 1 steps;
          * lastAhead is then the POINT ahead.
          */
-        private float leastInto(int to, int n, int begin, int end, Joints joints) {
+        private float leastInto(int to, int n, int begin, int end) {
             float least = MISSING;
             lastAhead = NONE;
             for (int u = begin; u < end; u++) {
@@ -1256,12 +1297,12 @@ public final class BlobCorners {
             }
         }
 
-        private int polygonArea(Outlines some, int start, int steps) {
+        private int polygonArea(int start, int steps) {
             int sum = 0;
             for (int i = 0; i < steps; i++) {
                 int a = start + cornerAt(start + i);
                 int b = start + cornerAt(start + (i + 1 < steps ? i + 1 : 0));
-                sum += some.xAt(a) * some.yAt(b) - some.xAt(b) * some.yAt(a);
+                sum += outlines.xAt(a) * outlines.yAt(b) - outlines.xAt(b) * outlines.yAt(a);
             }
             return Math.abs(sum);
         }
