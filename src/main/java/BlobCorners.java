@@ -423,7 +423,8 @@ public final class BlobCorners {
     }
 
     private int heaviestPlace() {
-        int least = Integer.MAX_VALUE;
+        // More CORNERS than POINTS there can't be.
+        int least = MOST_POINTS + 1;
         int found = NONE;
         for (int place = 0; place < grid.places(); place++) {
             if (grid.kindAt(place) == NONE) {
@@ -531,9 +532,12 @@ public final class BlobCorners {
                 return false;
             }
             int width = firstRowLength();
+            if (width < 1) {
+                return false;
+            }
             int rows = (size + 1) / (width + 1);
             // Without a fault only the last row can be too short.
-            if (width < 1 || rows < 1 || rows * (width + 1) != size + 1) {
+            if (rows * (width + 1) != size + 1) {
                 return false;
             }
             target.clear(width, rows);
