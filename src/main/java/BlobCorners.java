@@ -1142,8 +1142,6 @@ public final class BlobCorners {
 
     /** The BEST POLYGONS of OUTLINES, each found when it is first asked for. */
     private static final class BestPolygons {
-        private static final float MISSING = -1.0f;
-
         private final Outlines outlines;
         private final Joints joints;
         private final int[] fewest = new int[MOST_OUTLINES];
@@ -1194,13 +1192,13 @@ public final class BlobCorners {
             int start = outlines.startOf(outline);
             length = Math.min(outlines.lengthOf(outline), MOST_POINTS);
             fillPenalties(outline);
-            float least = MISSING;
+            float least = noSum();
             for (int first = 0; first < length; first++) {
                 if (joints.lastOnes(first) == 0L) {
                     continue;
                 }
                 float sum = sumRound(first, steps);
-                if (sum != MISSING && (least == MISSING || sum < least)) {
+                if (isSum(sum) && (!isSum(least) || sum < least)) {
                     least = sum;
                     keepCorners(start, first, steps);
                 }
@@ -1224,10 +1222,10 @@ public final class BlobCorners {
         /** The SUM of a POINT itself by so many steps. */
         private float sumRound(int first, int steps) {
             for (int v = first; v < length; v++) {
-                setSum(0, v, v == first ? 0.0f : MISSING, NONE);
+                setSum(0, v, v == first ? 0.0f : noSum(), NONE);
             }
             for (int n = 1; n < steps; n++) {
-                setSum(n, first, MISSING, NONE);
+                setSum(n, first, noSum(), NONE);
                 for (int v = first + 1; v < length; v++) {
                     float sum = leastInto(v, n, first, v);
                     setSum(n, v, sum, lastAhead);
@@ -1241,20 +1239,29 @@ public final class BlobCorners {
          * lastAhead is then the POINT ahead.
          */
         private float leastInto(int to, int n, int begin, int end) {
-            float least = MISSING;
+            float least = noSum();
             lastAhead = NONE;
             for (int u = begin; u < end; u++) {
                 float before = sumAt(n - 1, u);
-                if (before == MISSING || !joints.are(u, to)) {
+                if (!isSum(before) || !joints.are(u, to)) {
                     continue;
                 }
                 float sum = before + penaltyAt(u, to);
-                if (least == MISSING || sum < least) {
+                if (!isSum(least) || sum < least) {
                     least = sum;
                     lastAhead = u;
                 }
             }
             return least;
+        }
+
+        /** What stands where there is no SUM: SUMS are never less than 0. */
+        private static float noSum() {
+            return -1.0f;
+        }
+
+        private static boolean isSum(float sum) {
+            return sum >= 0.0f;
         }
 
         private void setSum(int n, int number, float sum, int ahead) {
@@ -1267,7 +1274,7 @@ public final class BlobCorners {
 
         private float sumAt(int n, int number) {
             int at = n * MOST_POINTS + number;
-            return at >= 0 && at < sums.length ? sums[at] : MISSING;
+            return at >= 0 && at < sums.length ? sums[at] : noSum();
         }
 
         private float penaltyAt(int from, int to) {

@@ -5,7 +5,11 @@ import java.lang.reflect.Method;
 import java.lang.reflect.Modifier;
 import java.nio.file.Files;
 import java.nio.file.Path;
+import java.util.ArrayList;
+import java.util.List;
+import java.util.Map;
 import java.util.Set;
+import java.util.TreeMap;
 import java.util.TreeSet;
 import java.util.regex.Matcher;
 import java.util.regex.Pattern;
@@ -19,6 +23,16 @@ public final class LanguageTest {
         new TreeSet<>(Set.of("NONE", "UNKNOWN", "OUTSIDE", "STATE", "FULL"));
     private static final String FORBIDDEN = "\\b(throw|throws|try|catch|synchronized|assert|import|protected"
         + "|package|Object|Float|Double|Random|Thread|equals|hashCode|toString|\\w+Exact)\\b|->|::";
+
+    private static final Set<String> STATIC_TYPES =
+        Set.of("int", "long", "boolean", "char", "String", "int[]", "long[]", "char[]", "byte[]");
+    private static final int MOST_LINES = 60;
+    private static final int MOST_DEEP = 8;
+    private static final Pattern CLASS = Pattern.compile("class (\\w+)");
+    private static final Pattern METHOD =
+        Pattern.compile("    +(?:private|public)(?: static)? [\\w\\[\\]]+ (\\w+)\\(.*\\{");
+    private static final Pattern CALL = Pattern.compile("(?:(\\w+)\\.)?\\b([a-z]\\w*)\\(");
+    private static final Set<String> NO_CALLS = Set.of("if", "for", "while", "switch", "return");
 
     private static int wrong = 0;
 
@@ -34,7 +48,16 @@ public final class LanguageTest {
         for (Class<?> inner : BlobCorners.class.getDeclaredClasses()) {
             nested(inner);
         }
-        words(Files.readString(Path.of("src/main/java/BlobCorners.java")));
+        String code = withoutRemarks(Files.readString(Path.of("src/main/java/BlobCorners.java")));
+        words(code);
+        Map<String, List<String>> bodies = bodies(code);
+        check(bodies.size() > METHODS.size(), "the methods are not found");
+        for (String method : bodies.keySet()) {
+            int lines = bodies.get(method).size();
+            check(lines <= MOST_LINES, method + " has " + lines + " lines");
+            int deep = depth(bodies, method, 1);
+            check(deep <= MOST_DEEP, method + " goes " + deep + " calls deep");
+        }
         System.out.println(wrong == 0 ? "the rules are kept" : wrong + " breaches of the rules");
         if (wrong != 0) {
             System.exit(1);
@@ -82,6 +105,7 @@ public final class LanguageTest {
         for (Field f : some.getDeclaredFields()) {
             if (Modifier.isStatic(f.getModifiers())) {
                 check(Modifier.isFinal(f.getModifiers()), "static state: " + f);
+                check(STATIC_TYPES.contains(f.getType().getSimpleName()), "static, of a wrong type: " + f);
             } else {
                 own++;
             }
@@ -90,9 +114,70 @@ public final class LanguageTest {
         check(BlobCorners.class.getDeclaredClasses().length <= 11, "too many classes");
     }
 
-    private static void words(String source) {
-        String code = source.replaceAll("(?s)/\\*.*?\\*/", " ").replaceAll("//[^\n]*", " ")
+    private static String withoutRemarks(String source) {
+        return source.replaceAll("(?s)/\\*.*?\\*/", " ").replaceAll("//[^\n]*", " ")
             .replaceAll("\"[^\"\n]*\"", "\"\"");
+    }
+
+    /** The lines of each method, by its class and name. */
+    private static Map<String, List<String>> bodies(String code) {
+        Map<String, List<String>> all = new TreeMap<>();
+        String some = "";
+        List<String> body = new ArrayList<>();
+        int open = 0;
+        for (String line : code.split("\n")) {
+            Matcher m = CLASS.matcher(line);
+            if (m.find()) {
+                some = m.group(1);
+            }
+            m = METHOD.matcher(line);
+            if (open == 0 && m.matches()) {
+                body = new ArrayList<>();
+                check(all.put(some + "." + m.group(1), body) == null, "twice: " + line);
+            }
+            if (open > 0 || m.matches()) {
+                body.add(line);
+                open += line.replaceAll("[^{]", "").length() - line.replaceAll("[^}]", "").length();
+            }
+        }
+        return all;
+    }
+
+    /**
+     * How many calls stand open at most, this one and the library's counted. Which class a call on an
+     * object goes to is not looked up: the deepest method of that name counts.
+     */
+    private static int depth(Map<String, List<String>> bodies, String method, int level) {
+        int deepest = level;
+        List<String> body = bodies.get(method);
+        for (int i = 1; i < body.size() && level <= MOST_DEEP; i++) {
+            Matcher m = CALL.matcher(body.get(i));
+            while (m.find()) {
+                if (NO_CALLS.contains(m.group(2))) {
+                    continue;
+                }
+                deepest = Math.max(deepest, level + 1);
+                for (String other : bodies.keySet()) {
+                    if (goesTo(bodies, method, m.group(1), m.group(2), other)) {
+                        deepest = Math.max(deepest, depth(bodies, other, level + 1));
+                    }
+                }
+            }
+        }
+        return deepest;
+    }
+
+    private static boolean goesTo(Map<String, List<String>> bodies, String from, String on, String name,
+        String other) {
+        if (!other.endsWith("." + name)) {
+            return false;
+        }
+        String own = from.substring(0, from.indexOf('.') + 1) + name;
+        return on == null ? other.equals(bodies.containsKey(own) ? own : "BlobCorners." + name)
+            : !on.equals("Math") && !on.equals("Integer");
+    }
+
+    private static void words(String code) {
         Matcher m = Pattern.compile(FORBIDDEN).matcher(code);
         while (m.find()) {
             check(false, "forbidden: " + m.group());
