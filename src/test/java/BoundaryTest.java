@@ -806,9 +806,10 @@ public final class BoundaryTest {
         bits("round POINT 0: 1 by 2", x.penalty(0, 3, 1), 0.5f);
         bits("2 by 1", x.penalty(0, 0, 3), 2.0f);
         bits("round POINT 0: 2 by 1", x.penalty(0, 2, 1), 2.0f);
-        // (0,0) to (0,1) by (1,0), (2,0), (3,0), (3,1), (2,1), (1,1) is too far off for 'lll';
         // (0,0) to (3,1): 1 + 4 + 9 by 10.
         bits("14 by 10", blobOf("lll").penalty(0, 0, 4), 1.4f);
+        // (4,1) to (0,2): 1 + 4 + 9 + 1 by 17, divided but once.
+        bits("15 by 17", blobOf("llll/l...").penalty(0, 5, 10), 15.0f / 17.0f);
         due("all on the line", blobOf("ddddd").penalty(0, 0, 5), 0);
         says("NONE, if they can't be JOINED");
         due("penalty(0, 0, 2)", blobOf("d").penalty(0, 0, 2), NONE);
@@ -885,6 +886,7 @@ public final class BoundaryTest {
         penaltyByItsBits();
         polygonArea();
         cornerRefusals();
+        polygonsBesideOneAnother();
         polygonsBehindAChange();
     }
 
@@ -975,6 +977,16 @@ public final class BoundaryTest {
         // Reckoned with more digits it would be 2.8f, one bit less.
         bits("PENALTY", x.outline(0, 3), 1.4f + 1.0f + 0.4f);
         due("not rounded once alone", x.outline(0, 3), Float.floatToIntBits(2.8f) + 1);
+        // 0, 4, 7 come to 14/10 + 1 + 2/5 here, too, and 3, 6, 9 to 1 + 2/5 + 14/10: alike but for the bits.
+        x = blobOf("ldl/.dl");
+        bits("0 to 4", x.penalty(0, 0, 4), 1.4f);
+        bits("4 to 7", x.penalty(0, 4, 7), 1.0f);
+        bits("7 to 0", x.penalty(0, 7, 0), 0.4f);
+        bits("3 to 6", x.penalty(0, 3, 6), 1.0f);
+        bits("6 to 9", x.penalty(0, 6, 9), 0.4f);
+        bits("9 to 3", x.penalty(0, 9, 3), 1.4f);
+        answers("the lesser by a bit", corners(x, 0), 3, 6, 9);
+        bits("its PENALTY", x.outline(0, 3), 2.8f);
     }
 
     private static void penaltyByItsBits() {
@@ -1013,6 +1025,27 @@ public final class BoundaryTest {
         refused(x, "corner(MIN, MAX)", UNKNOWN, () -> x.corner(MIN, MAX));
         refused(x, "corner(0, MAX)", UNKNOWN, () -> x.corner(0, MAX));
         refused(x, "corner(0, MIN)", UNKNOWN, () -> x.corner(0, MIN));
+    }
+
+    private static void polygonsBesideOneAnother() {
+        says("each OUTLINE has its own BEST POLYGON, in whatever order they are asked for");
+        // What has to be a CORNER of the one is none of the other.
+        BlobCorners x = blobOf("s.ddd");
+        answers("behind a sharp one", corners(x, 1), 0, 3, 4, 7);
+        due("all together", x.count(5), 8);
+        // The last one first, then the one ahead of it, then the last one again.
+        BlobCorners y = blobOf("l.d.l");
+        answers("OUTLINE 2", points(y, 2, 4), 1, 1, 1, 0);
+        answers("OUTLINE 1", points(y, 1, 4), 1, 1, 1, 1);
+        answers("OUTLINE 0", points(y, 0, 4), 1, 1, 1, 0);
+        answers("OUTLINE 1 again", points(y, 1, 4), 1, 1, 1, 1);
+        answers("OUTLINE 2 again", points(y, 2, 4), 1, 1, 1, 0);
+        // A shorter one behind a longer one, of which nothing is left.
+        BlobCorners z = blobOf("l/d/./l");
+        answers("the longer one", corners(z, 0), 0, 3, 4);
+        bits("the longer one", z.outline(0, 3), 1.0f);
+        answers("the shorter one", corners(z, 1), 0, 1, 2);
+        bits("the shorter one", z.outline(1, 3), 0.5f);
     }
 
     private static void polygonsBehindAChange() {
