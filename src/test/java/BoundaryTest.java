@@ -878,6 +878,7 @@ public final class BoundaryTest {
     private static void polygonSentences() {
         threeAtLeast();
         allPointsAtMost();
+        firstOneOnceAlone();
         leastPenalty();
         leastFirst();
         leastNumberAhead();
@@ -917,6 +918,21 @@ public final class BoundaryTest {
         due("CORNERS of a comb", comb.outline(0, 2), 36);
         due("the last one", comb.corner(0, 35), 35);
         due("its PENALTY", comb.outline(0, 3), 0);
+    }
+
+    private static void firstOneOnceAlone() {
+        says("the SUM of F by 0 steps is 0; by more there are SUMS of greater POINTS alone, at last that of F");
+        // 2 and 3 have to be CORNERS and could be JOINED both ways, so a third one has to come: it costs
+        // 3 to 6: (1 + 1) by 1, and 6 to 2: 6 times 4, by 4. All three lie on one line.
+        BlobCorners x = blobOf("l.l/lhl");
+        answers("have to be", points(x, 0, 2), 0, 0, 1, 1, 0, 0, 0, 0, 0, 0, 0, 0);
+        due("2 to 3", x.joined(0, 2, 3), 1);
+        due("3 to 2", x.joined(0, 3, 2), 1);
+        answers("CORNERS", corners(x, 0), 2, 3, 6);
+        bits("3 to 6", x.penalty(0, 3, 6), 2.0f);
+        bits("6 to 2", x.penalty(0, 6, 2), 6.0f);
+        bits("PENALTY", x.outline(0, 3), 8.0f);
+        due("AREA, the least of all", x.outline(0, 4), 0);
     }
 
     private static void leastPenalty() {
