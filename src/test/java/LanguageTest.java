@@ -14,7 +14,7 @@ import java.util.TreeSet;
 import java.util.regex.Matcher;
 import java.util.regex.Pattern;
 
-/** Those rules of LANGUAGE.md that can be looked up: the face, the words, the sizes. */
+/** Those rules of LANGUAGE.md that can be looked up: the face, the words, the library, the sizes. */
 public final class LanguageTest {
     private static final Set<String> METHODS = new TreeSet<>(Set.of("letter", "blank", "fault", "blob",
         "dot", "as", "outline", "point", "joined", "penalty", "corner", "put", "take", "turn", "mirror",
@@ -33,6 +33,11 @@ public final class LanguageTest {
         Pattern.compile("    +(?:private|public)(?: static)? [\\w\\[\\]]+ (\\w+)\\(.*\\{");
     private static final Pattern CALL = Pattern.compile("(?:(\\w+)\\.)?\\b([a-z]\\w*)\\(");
     private static final Set<String> NO_CALLS = Set.of("if", "for", "while", "switch", "return");
+    // Of the library no more than this is used; LANGUAGE.md's rule 4 lets all of it be.
+    private static final Set<String> LIBRARY =
+        Set.of("Math.abs", "Math.max", "Math.min", "Integer.bitCount", "SIGNS.indexOf");
+    private static final Set<String> LIBRARY_TYPES = Set.of("String", "Math", "Integer");
+    private static final Pattern FACE_METHOD = Pattern.compile("    public (int|long) (\\w+)\\((.*)\\);");
 
     private static int wrong = 0;
 
@@ -48,8 +53,13 @@ public final class LanguageTest {
         for (Class<?> inner : BlobCorners.class.getDeclaredClasses()) {
             nested(inner);
         }
-        String code = withoutRemarks(Files.readString(Path.of("src/main/java/BlobCorners.java")));
+        signatures(Files.readString(Path.of("../shared/DOC.md")));
+        String source = Files.readString(Path.of("src/main/java/BlobCorners.java"));
+        check(source.chars().allMatch(c -> c < 127), "a sign that is not plain in the source");
+        String code = withoutRemarks(source);
         words(code);
+        types(code);
+        libraryCalls(code);
         Map<String, List<String>> bodies = bodies(code);
         check(bodies.size() > METHODS.size(), "the methods are not found");
         for (String method : bodies.keySet()) {
@@ -91,11 +101,36 @@ public final class LanguageTest {
         fields(BlobCorners.class);
     }
 
+    /** Each method takes and answers what the document's face says, not its name alone. */
+    private static void signatures(String document) {
+        Set<String> due = new TreeSet<>();
+        Matcher m = FACE_METHOD.matcher(document);
+        while (m.find()) {
+            String parameters = m.group(3).replaceAll(" \\w+(,|$)", "$1");
+            due.add(m.group(1) + " " + m.group(2) + "(" + parameters + ")");
+        }
+        check(due.size() == METHODS.size(), "the face is not found in the document: " + due);
+        Set<String> own = new TreeSet<>();
+        for (Method method : BlobCorners.class.getDeclaredMethods()) {
+            if (Modifier.isPublic(method.getModifiers())) {
+                check(!Modifier.isStatic(method.getModifiers()), "static: " + method);
+                List<String> parameters = new ArrayList<>();
+                for (Class<?> type : method.getParameterTypes()) {
+                    parameters.add(type.getName());
+                }
+                own.add(method.getReturnType().getName() + " " + method.getName() + "("
+                    + String.join(", ", parameters) + ")");
+            }
+        }
+        check(own.equals(due), "the face is " + own + ", due is " + due);
+    }
+
     private static void nested(Class<?> inner) {
         check(Modifier.isStatic(inner.getModifiers()), "not static: " + inner);
         check(!Modifier.isPublic(inner.getModifiers()), "public: " + inner);
         for (Method m : inner.getDeclaredMethods()) {
             check(!METHODS.contains(m.getName()), "with a public one's name: " + m);
+            check(m.getParameterCount() <= 7, "too many parameters: " + m);
         }
         fields(inner);
     }
@@ -175,6 +210,37 @@ public final class LanguageTest {
         String own = from.substring(0, from.indexOf('.') + 1) + name;
         return on == null ? other.equals(bodies.containsKey(own) ? own : "BlobCorners." + name)
             : !on.equals("Math") && !on.equals("Integer");
+    }
+
+    /** Words with a great letter first are constants, own classes, or of the library. */
+    private static void types(String code) {
+        Set<String> own = new TreeSet<>();
+        Matcher m = CLASS.matcher(code);
+        while (m.find()) {
+            own.add(m.group(1));
+        }
+        check(own.contains("BlobCorners") && own.size() <= 12, "classes: " + own);
+        m = Pattern.compile("\\b[A-Z]\\w*[a-z]\\w*").matcher(code);
+        while (m.find()) {
+            check(own.contains(m.group()) || LIBRARY_TYPES.contains(m.group()), "not to be used: " + m.group());
+        }
+        // A cast to a class would have to stand behind a test; there is none at all.
+        m = Pattern.compile("\\([A-Z]\\w*[a-z]\\w*(\\[\\])?\\) ?[\\w(]").matcher(code);
+        while (m.find()) {
+            check(false, "a cast: " + m.group());
+        }
+        check(!Pattern.compile("\\[\\]\\[\\]").matcher(code).find(), "arrays of arrays");
+    }
+
+    private static void libraryCalls(String code) {
+        Matcher m = Pattern.compile("\\b([A-Z]\\w*)\\.(\\w+)\\(").matcher(code);
+        while (m.find()) {
+            String call = m.group(1) + "." + m.group(2);
+            boolean isOwn = code.contains("class " + m.group(1) + " ");
+            check(isOwn || LIBRARY.contains(call), "not to be called: " + call);
+        }
+        m = Pattern.compile("\"\"\\s*\\+|\\+\\s*\"\"").matcher(code);
+        check(!m.find(), "texts joined by +");
     }
 
     private static void words(String code) {
