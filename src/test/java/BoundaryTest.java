@@ -665,6 +665,8 @@ public final class BoundaryTest {
         due("how many have to be", x.outline(0, 6), 3);
         due("none has to be", blobOf("dhd").outline(0, 6), 0);
         due("all have to be", blobOf("s").outline(0, 6), 4);
+        due("none of another OUTLINE's", blobOf("s.d").outline(1, 6), 0);
+        due("none of the next OUTLINE's", blobOf("d.s").outline(0, 6), 0);
     }
 
     private static void turnAtPointZero() {
@@ -1056,6 +1058,11 @@ public final class BoundaryTest {
         answers("OUTLINE 0", points(y, 0, 4), 1, 1, 1, 0);
         answers("OUTLINE 1 again", points(y, 1, 4), 1, 1, 1, 1);
         answers("OUTLINE 2 again", points(y, 2, 4), 1, 1, 1, 0);
+        // All POINTS of the first one are CORNERS, so the next one's follow right behind them.
+        BlobCorners both = blobOf("d.d");
+        answers("OUTLINE 0 first", corners(both, 0), 0, 1, 2, 3);
+        answers("OUTLINE 1 then", corners(both, 1), 0, 1, 2, 3);
+        answers("OUTLINE 0 once more", corners(both, 0), 0, 1, 2, 3);
         // A shorter one behind a longer one, of which nothing is left.
         BlobCorners z = blobOf("l/d/./l");
         answers("the longer one", corners(z, 0), 0, 3, 4);

@@ -224,6 +224,7 @@ public final class LanguageTest {
         while (m.find()) {
             check(own.contains(m.group()) || LIBRARY_TYPES.contains(m.group()), "not to be used: " + m.group());
         }
+        check(!Pattern.compile("\\bInteger\\b(?!\\.)").matcher(code).find(), "Integer without a list that holds it");
         // A cast to a class would have to stand behind a test; there is none at all.
         m = Pattern.compile("\\([A-Z]\\w*[a-z]\\w*(\\[\\])?\\) ?[\\w(]").matcher(code);
         while (m.find()) {
